@@ -753,6 +753,7 @@ public final class NestedFilters {
                 boolean empty = isEmpty(slot);
                 giveTruth(empty);
                 break;
+            case FAIL:
             default:
                 signal = ERRED;
                 break;
@@ -831,15 +832,15 @@ public final class NestedFilters {
         now = frameParent[now];
         int op = partOp[framePart[now]];
         boolean forgives = role == ROLE_A && (op == TRY || op == ELSE);
+        // An error that is not forgiven goes on outwards as it is.
+        boolean ended = signal == ENDED || forgives;
         if (signal == ANSWERED && role == ROLE_A) {
             answerOfA(op);
         } else if (signal == ANSWERED) {
             answerBehindA(op);
-        } else if (signal == ERRED && !forgives) {
-            signal = ERRED;
-        } else if (role == ROLE_A) {
+        } else if (ended && role == ROLE_A) {
             endOfA(op);
-        } else {
+        } else if (ended) {
             endBehindA(op, role);
         }
     }
