@@ -801,8 +801,9 @@ public final class NestedFilters {
             return;
         }
         int made = runSlot();
+        int many = slotSize[slot];
         setNested(made, ARRAY, 0);
-        for (int place = 0; place < slotSize[slot]; place++) {
+        for (int place = 0; place < many; place++) {
             int key = slotKind[slot] == ARRAY ? place : keyAt(slotNumber[slot], place);
             addTo(made, DIGIT_SLOTS + key);
         }
@@ -1026,16 +1027,18 @@ public final class NestedFilters {
     }
 
     private void makeJoined(int left, int right) {
-        if (slotSize[left] + slotSize[right] > WIDTH) {
+        int manyLeft = slotSize[left];
+        int manyRight = slotSize[right];
+        if (manyLeft + manyRight > WIDTH) {
             signal = ERRED;
             return;
         }
         int slot = runSlot();
         setNested(slot, ARRAY, 0);
-        for (int place = 0; place < slotSize[left]; place++) {
+        for (int place = 0; place < manyLeft; place++) {
             addTo(slot, slotPlaces[left * WIDTH + place]);
         }
-        for (int place = 0; place < slotSize[right]; place++) {
+        for (int place = 0; place < manyRight; place++) {
             addTo(slot, slotPlaces[right * WIDTH + place]);
         }
         measure(slot);
@@ -1063,12 +1066,14 @@ public final class NestedFilters {
     }
 
     private void makeWithout(int left, int right) {
+        int manyLeft = slotSize[left];
+        int manyRight = slotSize[right];
         int slot = runSlot();
         setNested(slot, ARRAY, 0);
-        for (int place = 0; place < slotSize[left]; place++) {
+        for (int place = 0; place < manyLeft; place++) {
             int inner = slotPlaces[left * WIDTH + place];
             boolean found = false;
-            for (int other = 0; other < slotSize[right] && !found; other++) {
+            for (int other = 0; other < manyRight && !found; other++) {
                 int order = compared(inner, slotPlaces[right * WIDTH + other]);
                 found = order == 0;
             }

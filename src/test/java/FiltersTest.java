@@ -186,6 +186,7 @@ public final class FiltersTest {
         due("5 in", "same null -", "FAILED 4:");
         due("5 {0 in", "same same -", "FAILED 4:");
         due("1 2 1 [1 3 2 [5 in", "same num:2 all -", "DONE 5: [1,[1],3]");
+        due("1 2 3 4 [4 in", "same num:9 num:3 also num:1 also all -", "DONE 9: [2,4]");
         due("[0 in", "same same -", "DONE 4: []");
         due("1 2 [2 1 2 [2 1 {3 1 {3 4 [5 in", "same index:0 all -", "DONE 5: [{3:1},{3:1},4]");
         due("1 2 [2 1 2 [2 1 {3 1 {3 4 [5 in", "same index:2 all -", "DONE 5: [[1,2],[1,2],4]");

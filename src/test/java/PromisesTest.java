@@ -86,6 +86,22 @@ public final class PromisesTest {
         x.forget();
         x.forget();
         due("2 twice", x.value(2, 0), 1);
+        forgottenValuesAreGone();
+    }
+
+    /** The array [1] is made where a longer one was before. */
+    private static void forgottenValuesAreGone() {
+        NestedFilters x = Words.input("5 9 9 [2 in");
+        x.forget();
+        Words.values(x, "null 8 1 [1 1 0 [2 [2 in");
+        Words.filter(x, "index:0 index:1 <");
+        due("2 the shorter one comes first", Words.told(x), "DONE 4: true");
+        x.scrap();
+        Words.filter(x, "index:0 index:1 then");
+        due("2 it has one place", Words.told(x), "DONE 3: null");
+        x.scrap();
+        Words.filter(x, "index:1 index:0 <");
+        due("2 the longer one comes second", Words.told(x), "DONE 4: false");
     }
 
     private static void value() {
