@@ -33,7 +33,6 @@ public final class FiltersTest {
         sums();
         differences();
         products();
-        order();
         andOr();
         elses();
         names();
@@ -208,22 +207,6 @@ public final class FiltersTest {
         due("7 [1 in", "same same *", "FAILED 4:");
         due("7 [1 in", "same same /", "FAILED 4:");
         due("7 [1 in", "same same %", "FAILED 4:");
-    }
-
-    /** Each value comes before all that stand behind it here. */
-    private static final String[] IN_ORDER = {"null", "false", "true", "-2147483648", "-1", "0", "2147483647", "[0",
-        "null [1", "1 [1", "1 1 [2", "1 2 [2", "1 2 0 [3", "2 [1", "[0 [1", "1 [1 5 [2", "1 0 [2 [1", "2 [1 [1", "{ [1", "{",
-        "5 {0", "6 {0", "0 0 {01", "0 1 {01", "1 0 {01", "0 0 0 {012", "0 0 {02", "0 {1", "0 [1 {1", "1 [1 {1", "0 0 {12",
-        "0 {7"};
-
-    private static void order() {
-        for (int i = 0; i < IN_ORDER.length; i++) {
-            for (int j = 0; j < IN_ORDER.length; j++) {
-                String pair = IN_ORDER[i] + " " + IN_ORDER[j] + " [2 in";
-                due(pair, "index:0 index:1 <", "DONE 4: " + (i < j));
-                due(pair, "index:0 index:1 =", "DONE 4: " + (i == j));
-            }
-        }
     }
 
     private static void andOr() {
