@@ -89,6 +89,9 @@ final class FilterSentences {
                 run(array(size) + " in", "index:" + n, "DONE 1: " + want);
             }
         }
+        // The empty array is made between full ones.
+        String emptyBetween = array(10) + " [0 " + array(10) + " [3 in";
+        for (int n = -10; n <= 9; n++) run(emptyBetween, "index:1 index:" + n + " then", "DONE 3: null");
         Sentences.says("null of null; else error.");
         for (int n = -10; n <= 9; n++) {
             run("null in", "index:" + n, "DONE 1: null");
@@ -305,7 +308,8 @@ final class FilterSentences {
     private static void joined(int x, int y) {
         String shown = (shown(x) + shown(y)).replace("][", x == 0 || y == 0 ? "" : ",");
         String counted = 2 + countedFor(x) + countedFor(y) + ":";
-        run(TEN, firstOfTen(x) + " " + firstOfTen(y) + " +", x + y > 10 ? "FAILED " + counted : "DONE " + counted + " " + shown);
+        String want = x + y > 10 ? "FAILED " + counted : "DONE " + counted + " " + shown;
+        run(TEN, firstOfTen(x) + " " + firstOfTen(y) + " +", want);
     }
 
     private static String firstOfTen(int n) {

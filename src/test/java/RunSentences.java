@@ -351,6 +351,7 @@ final class RunSentences {
             x.object(2);
         }, new int[] {0, 1, 2, 1, 3, 5});
         changed("a refused call", "each", x -> x.two(0, 0), new int[] {0, 1, 2, 1, 3, 5});
+        runsBehindRuns();
         NestedFilters x = of("7 in", "same");
         for (int time = 0; time < 100; time++) {
             x.value(3, time);
@@ -358,6 +359,29 @@ final class RunSentences {
             x.input();
             due("input " + time, x.number(0, 0), time < 39 ? time : 0);
         }
+    }
+
+    /** A run knows nothing of what the run before it left: each filter is run behind each other one. */
+    private static void runsBehindRuns() {
+        String numbers = "num:1 num:2 also num:3 also";
+        String[] filters = {"same", "num:1 num:2 +", "none none fail fold:0", "each none ?0 fold:0", "each all keys then",
+            "each ?0 name:0 ?0 also", "none all none all =", "num:5 num:5 =", "each each none name:0 name:0 keys also",
+            "num:1 num:2 also all num:3 num:4 also all <", "none all index:0 then", "deep fail also", "each num:8 else",
+            TermSentences.BURN + " each also" + " try".repeat(9),
+            numbers + (" " + numbers + " then").repeat(3) + " num:4 then".repeat(7) + " none then"};
+        for (String filter : filters) {
+            for (String other : filters) {
+                NestedFilters x = Words.input(TEN);
+                Sentences.due(other + " behind " + filter, toldOf(x, filter) + toldOf(x, other),
+                    Words.told(of(TEN, filter)) + Words.told(of(TEN, other)));
+            }
+        }
+    }
+
+    private static String toldOf(NestedFilters x, String filter) {
+        x.scrap();
+        Words.filter(x, filter);
+        return Words.told(x);
     }
 
     private static void appliedAnew() {
@@ -404,6 +428,10 @@ final class RunSentences {
         due("no 41st value", x.value(3, 41), NestedFilters.FULL);
         due("no 41st array", x.array(0), NestedFilters.FULL);
         due("no 41st object", x.object(0), NestedFilters.FULL);
+        x.input();
+        x.scrap();
+        Words.filter(x, "same num:5 also");
+        Sentences.due("the 40th and what a run makes", Words.told(x), "DONE 3: 40 5");
         // What was refused was not made.
         x = new NestedFilters();
         for (int i = 0; i < 50; i++) {

@@ -104,6 +104,29 @@ final class StackSentences {
         x.value(3, 6);
         x.input();
         Sentences.due("an input behind forget", Words.told(x), "DONE 3: 6 5");
+        nothingIsLeft();
+    }
+
+    /** Values that are made behind forget know nothing of those that were made before it. */
+    private static void nothingIsLeft() {
+        String[] before = {"1 2 3 [3 [1 [1 in", "[0 1 2 3 4 5 {024 {7 5 5 [3 in", "0 1 2 3 4 5 6 7 8 9 [10 in",
+            "[0 [1 [1 [1 [0 [1 [1 [1 [0 [1 [1 [1 in"};
+        String[] behind = {"1 1 1 [3 in", "[0 [0 [0 [3 in", "null 8 1 [1 1 0 [2 [2 in", "1 {3 1 {3 [2 in", "7 7 [2 in"};
+        String[] filters = {"deep", "index:0 index:1 =", "index:0 index:1 <", "index:1 index:0 <",
+            "index:0 index:0 then", "index:0 index:1 then", "each size then", "same same -", "same all all all"};
+        for (String b : before) {
+            for (String v : behind) {
+                for (String f : filters) {
+                    NestedFilters x = Words.input(b);
+                    x.forget();
+                    Words.values(x, v);
+                    Words.filter(x, f);
+                    NestedFilters other = Words.input(v);
+                    Words.filter(other, f);
+                    Sentences.due(f + " of " + v + " where " + b + " was", Words.told(x), Words.told(other));
+                }
+            }
+        }
     }
 
     private static void value() {

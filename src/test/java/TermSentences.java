@@ -30,7 +30,8 @@ final class TermSentences {
         Sentences.says("Filters on nested values: a filter makes of a value any number of answers, one after the other, and "
             + "only as many as are wanted are worked out.");
         for (int many = 0; many <= 9; many++) {
-            Sentences.run(TEN, "each first:" + many, "DONE " + (many == 0 ? 1 : many + 2) + ":" + TEN_ANSWERS.substring(0, 2 * many));
+            String want = (many == 0 ? 1 : many + 2) + ":" + TEN_ANSWERS.substring(0, 2 * many);
+            Sentences.run(TEN, "each first:" + many, "DONE " + want);
         }
         Sentences.run(TEN, "each fail also first:9", "DONE 12: 0 1 2 3 4 5 6 7 8");
 
@@ -224,7 +225,40 @@ final class TermSentences {
         pairs("=", true);
         Sentences.run("1 {4 2 [2 1 {4 2 [2 [2 in", "index:0 index:1 =", "DONE 4: true");
         Sentences.run("1 {4 2 [2 1 {4 3 [2 [2 in", "index:0 index:1 =", "DONE 4: false");
+        madeInOtherWays();
+        oneBehindTheOther();
         largeOnes();
+    }
+
+    /** It does not matter how a value was made. */
+    private static void madeInOtherWays() {
+        for (int n : new int[] {0, 1, 2, 10}) {
+            StringBuilder places = new StringBuilder();
+            for (int i = 0; i < n; i++) places.append(i).append(' ');
+            String v = places + "[" + n + " in";
+            for (String way : new String[] {"keys", "each all", "same none all +", "none all same +", "same none all -"}) {
+                for (String other : new String[] {"same", "keys", "each all", "none all same +", "same none all -"}) {
+                    NestedFilters x = Words.input(v);
+                    Words.filter(x, way + " " + other + " =");
+                    Sentences.due(way + " = " + other + " of " + n, Words.answer(x, 0), "true");
+                    x = Words.input(v);
+                    Words.filter(x, way + " " + other + " <");
+                    Sentences.due(way + " < " + other + " of " + n, Words.answer(x, 0), "false");
+                }
+            }
+        }
+        Sentences.run("6 {3 in", "same num:6 make:3 =", "DONE 6: true");
+        Sentences.run("6 7 {34 in", "same num:6 make:3 num:7 make:4 + =", "DONE 11: true");
+        Sentences.run("6 in", "same num:3 num:3 + =", "DONE 7: true");
+    }
+
+    /** What one comparison found is nothing to the next one. */
+    private static void oneBehindTheOther() {
+        Sentences.run("1 5 [2 [1 2 6 [2 [1 3 [1 3 [1 [4 in", "index:0 index:1 < index:2 index:3 = also", "DONE 9: true true");
+        Sentences.run("1 5 [2 2 6 [2 3 7 [2 4 7 [2 [4 in", "index:0 index:1 < index:2 index:3 = also",
+            "DONE 9: true false");
+        Sentences.run("1 2 [2 3 4 [2 [2 1 2 [2 3 5 [2 [2 [2 in", "index:0 index:1 < index:1 index:0 < also index:0 "
+            + "index:1 = also", "DONE 14: true false false");
     }
 
     private static void largeOnes() {
@@ -336,6 +370,9 @@ final class TermSentences {
         tiredOnes();
         tiredTwos();
         tiredThrees();
+        // Nothing but applications: three answers of three of three, and so on.
+        String three = "null null also null also";
+        Sentences.run("7 in", three + (" " + three + " then").repeat(4) + " none then", "TIRED 600:");
         // Neither try nor else is an end of it.
         Sentences.run(TEN, BURN + " same also num:1 else num:1 else" + " try".repeat(18), "TIRED 600:");
     }
