@@ -6,7 +6,7 @@ import java.util.function.Function;
 import java.util.function.ToIntFunction;
 
 /**
- * Every call that can be refused, in states where one limit or another is reached. The object that
+ * The calls that can be refused, in states where one limit or another is reached. The object that
  * refused it is held against one that was never asked: all that can be seen of both must agree.
  */
 final class Refused {
