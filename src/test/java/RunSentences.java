@@ -432,6 +432,7 @@ final class RunSentences {
         x.scrap();
         Words.filter(x, "same num:5 also");
         Sentences.due("the 40th and what a run makes", Words.told(x), "DONE 3: 40 5");
+        mostValues();
         // What was refused was not made.
         x = new NestedFilters();
         for (int i = 0; i < 50; i++) {
@@ -447,5 +448,15 @@ final class RunSentences {
         due("16 were made by then", x.input(), 11);
         for (int i = 16; i < 40; i++) due("value " + i, x.value(0, 0) == 12 ? x.input() : -1, 11);
         due("the 41st", x.value(0, 0), NestedFilters.FULL);
+    }
+
+    /** Nearly all that is counted makes a value here: five for each array that is taken away, and what is left. */
+    private static void mostValues() {
+        String values = "[0 [0 [0 [0 [4 [0 [0 [0 [0 [0 [0 [0 [0 [0 [10 in";
+        String filter = "deep" + " num:5 all all all all -".repeat(6);
+        String shown = " [[[],[],[],[]],[],[],[],[],[],[],[],[],[]] [[],[],[],[]]" + " []".repeat(12);
+        Sentences.run(values, filter + " num:5 all -", "TIRED 600:" + shown);
+        Sentences.run(values, filter + " keys -", "DONE 593:" + shown + " []");
+        Sentences.run(values, filter + " keys - try", "DONE 594:" + shown + " []");
     }
 }

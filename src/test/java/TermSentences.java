@@ -228,6 +228,7 @@ final class TermSentences {
         madeInOtherWays();
         oneBehindTheOther();
         largeOnes();
+        largestOnes();
     }
 
     /** It does not matter how a value was made. */
@@ -279,6 +280,22 @@ final class TermSentences {
             Sentences.run(one, "same num:" + n + " all all all all <", "DONE 8: " + (n == 2));
             Sentences.run(one, "num:" + n + " all all all all same <", "DONE 8: " + (n == 0));
         }
+    }
+
+    /** Two values of ten times ten times ten times ten: they differ in the very last one alone. */
+    private static void largestOnes() {
+        String values = "0 0 0 0 0 0 0 0 0 1 [10 in";
+        String zeros = "each first:3 each num:0 then all same each ?1 then all name:1 fold:0";
+        // From what has a 1 at its end alone: nine of what has zeros alone, and itself behind them.
+        String onlyZeros = "index:0 each ?1 then all name:1";
+        String oneAtTheEnd = "each first:3 same " + onlyZeros + " each first:9 ?2 then same also all name:2 fold:0";
+        Sentences.run(values, zeros + " " + oneAtTheEnd + " <", "DONE 263: true");
+        Sentences.run(values, oneAtTheEnd + " " + zeros + " <", "DONE 263: false");
+        Sentences.run(values, zeros + " " + oneAtTheEnd + " =", "DONE 263: false");
+        Sentences.run(values, oneAtTheEnd + " " + oneAtTheEnd + " =", "DONE 316: true");
+        Sentences.run(values, oneAtTheEnd + " " + oneAtTheEnd + " <", "DONE 316: false");
+        // Nine are among the other ten; the last one is compared with all ten, and stays.
+        Sentences.run(values, oneAtTheEnd + " " + zeros + " - size then", "DONE 265: 1");
     }
 
     private static void pairs(String sign, boolean same) {
@@ -373,6 +390,10 @@ final class TermSentences {
         // Nothing but applications: three answers of three of three, and so on.
         String three = "null null also null also";
         Sentences.run("7 in", three + (" " + three + " then").repeat(4) + " none then", "TIRED 600:");
+        // As far as a run can go between what is counted: 37 filters down to each, and up again.
+        String nulls = "null ".repeat(10) + "[10 in";
+        Sentences.run(nulls, "each each each name:0 name:1" + " try".repeat(34) + " keep", "TIRED 600:");
+        Sentences.run(nulls, "each each name:0" + " try".repeat(34) + " keep keep", "DONE 158:");
         // Neither try nor else is an end of it.
         Sentences.run(TEN, BURN + " same also num:1 else num:1 else" + " try".repeat(18), "TIRED 600:");
     }
